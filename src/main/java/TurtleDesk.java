@@ -23,6 +23,9 @@ public final class TurtleDesk {
     private static final int HEIGHT = 24;
     private static final int HEADINGS = 24;
     private static final int COLOURS = 10;
+    private static final int FIRST_COLOUR = 1;
+    private static final int HOME_X = 16;
+    private static final int HOME_Y = 12;
 
     // The machine's words. A statement that was read has the number of its word as its kind.
     private static final int STATEMENT = 0;
@@ -67,7 +70,8 @@ public final class TurtleDesk {
     private static final String RESERVED =
             "to fd bk rt lt pen up down fill home stop let repeat while if else ";
     private static final int[] RESERVED_KINDS = {
-        TO, FORWARD, BACK, RIGHT, LEFT, PEN, UP, DOWN, FILL, HOME, STOP, LET, REPEAT, WHILE, IF, ELSE
+        TO, FORWARD, BACK, RIGHT, LEFT, PEN, UP, DOWN, FILL, HOME, STOP, LET, REPEAT, WHILE,
+        IF, ELSE
     };
 
     // The answers of run and interpret.
@@ -401,7 +405,7 @@ public final class TurtleDesk {
     /** A statement or a definition that was read. */
     private static final class Statement {
         private int kind;
-        /** The variable or parameter of a let; how many Es or parameters a call or definition has. */
+        /** Which variable or parameter a let sets, or how many parameters there are. */
         private int number = 0;
         /** Its expressions are the program's terms from here .. */
         private int from;
@@ -953,26 +957,22 @@ public final class TurtleDesk {
     /** The turtle, and the picture that it draws on. */
     private static final class Turtle {
         private final Picture picture = new Picture();
-        private float x;
-        private float y;
-        private int heading;
-        private int colour;
-        private boolean down;
-
-        Turtle() {
-            begin();
-        }
+        private float x = (float) HOME_X;
+        private float y = (float) HOME_Y;
+        private int heading = 0;
+        private int colour = FIRST_COLOUR;
+        private boolean down = true;
 
         void begin() {
             picture.wipe();
             goHome();
-            colour = 1;
+            colour = FIRST_COLOUR;
             down = true;
         }
 
         void goHome() {
-            x = 16f;
-            y = 12f;
+            x = (float) HOME_X;
+            y = (float) HOME_Y;
             heading = 0;
         }
 
@@ -1204,11 +1204,10 @@ public final class TurtleDesk {
         /** Does a word that the turtle does. */
         void move(int what) {
             switch (what) {
-                case FORWARD:
-                    go(take());
-                    break;
-                case BACK:
-                    go(-take());
+                case FORWARD: case BACK:
+                    if (!turtle.advance(what == FORWARD ? take() : -take())) {
+                        answer = TRAP_RANGE;
+                    }
                     break;
                 case RIGHT: case LEFT: case PEN:
                     steer(what, take());
@@ -1227,12 +1226,6 @@ public final class TurtleDesk {
                     break;
                 default:
                     break;
-            }
-        }
-
-        private void go(float d) {
-            if (!turtle.advance(d)) {
-                answer = TRAP_RANGE;
             }
         }
 
@@ -1415,7 +1408,8 @@ public final class TurtleDesk {
         /** Puts what a statement's expressions come to on the stack; false when there is a trap. */
         private boolean workOut(Statement s) {
             for (int k = s.from; k < s.to && k < program.termCount && machine.isGoing(); k++) {
-                machine.operate(program.termKinds[k], program.termNumbers[k], program.termBehinds[k]);
+                machine.operate(
+                        program.termKinds[k], program.termNumbers[k], program.termBehinds[k]);
             }
             return machine.isGoing();
         }

@@ -7,6 +7,8 @@ public final class CodeTest {
         definitionsAndCalls();
         names();
         sizeAndWord();
+        differentNames();
+        textAfterText();
         beginning();
         Check.end();
     }
@@ -79,6 +81,59 @@ public final class CodeTest {
         code("fd upp+too+t", "0 2 0 2 1 6 2 2 6 18 27");
     }
 
+    /** Names that share letters, or have those of a reserved word, are different names. */
+    private static void differentNames() {
+        String[][] all = {
+            {"a", "aa", "ab", "ba", "b", "bb", "aab", "baa"},
+            {"z", "zz", "az", "za", "zaz", "y", "yz", "az"},
+            {"aaaaaaaa", "aaaaaaab", "baaaaaaa", "zzzzzzzz", "azzzzzzz", "aaaaaaa"},
+            {"t", "o", "ot", "too", "f", "d", "df", "fdd"},
+            {"whil", "whilee", "hile", "repea", "epeat", "els", "elsee", "fi"}
+        };
+        for (String[] names : all) {
+            for (int k = 0; k < names.length; k++) {
+                for (int n = 0; n < names.length; n++) {
+                    int second = names[k].equals(names[n]) ? 0 : 1;
+                    code("let " + names[k] + "=" + names[n], "0 2 " + second + " 4 0 27");
+                }
+            }
+        }
+    }
+
+    /** What was read of one text has no part in the next ones. */
+    private static void textAfterText() {
+        TurtleDesk desk = new TurtleDesk();
+        for (int turn = 0; turn < 3; turn++) {
+            codeNext(desk, "to q{}q()fd b", "14 3 17 0 16 2 0 0 2 0 18 27");
+            codeNext(desk, "q()to q{}q()fd d", "0 16 6 0 14 7 17 0 16 6 0 0 2 0 18 27");
+            codeNext(desk, "fd c", "0 2 0 18 27");
+            codeNext(desk, "fd d+e", "0 2 0 2 1 6 18 27");
+            codeNext(desk, "", "27");
+            refusedNext(desk, "q()", 0);
+            refusedNext(desk, "to p x{fd", 9);
+            codeNext(desk, "fd y+x", "0 2 0 2 1 6 18 27");
+            refusedNext(desk, "fd a+b+c+d+e+f+g+h+i", 19);
+            codeNext(desk, "to p i{fd i}p(i)", "14 7 0 3 0 18 17 0 2 0 16 2 1 27");
+            refusedNext(desk, "to p{}p()q()", 9);
+            codeNext(desk, "to q{}to p{q()}", "14 3 17 14 10 0 16 2 0 17 27");
+        }
+    }
+
+    private static void codeNext(TurtleDesk desk, String text, String words) {
+        Check.retype(desk, text);
+        desk.compile();
+        Check.same("code of " + text, Check.code(desk), words);
+        Check.same("error of " + text, desk.error(), -1);
+    }
+
+    private static void refusedNext(TurtleDesk desk, String text, int place) {
+        Check.retype(desk, text);
+        String before = Check.code(desk);
+        Check.thrown("compile of " + text, IllegalArgumentException.class, desk::compile);
+        Check.same("error of " + text, desk.error(), place);
+        Check.same("the code before " + text, Check.code(desk), before);
+    }
+
     private static void sizeAndWord() {
         TurtleDesk desk = Check.compiled("fd 12.5");
         Check.same("size", desk.size(), 6);
@@ -92,7 +147,8 @@ public final class CodeTest {
         Check.same("size before compile", desk.size(), 6);
         Check.same("compile", desk.compile(), 3);
         Check.same("size after compile", desk.size(), 3);
-        Check.thrown("word of the code before", IndexOutOfBoundsException.class, () -> desk.word(3));
+        Check.thrown("word of the code before", IndexOutOfBoundsException.class,
+                () -> desk.word(3));
     }
 
     /** A program that is compiled finds all at its beginning. */

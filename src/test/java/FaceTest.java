@@ -59,8 +59,9 @@ public final class FaceTest {
         Check.same("NONE", TurtleDesk.NONE, -1);
         for (Class<?> inside : TurtleDesk.class.getDeclaredClasses()) {
             int m = inside.getModifiers();
-            Check.same(inside.getName() + " is static, not public",
-                    Modifier.isStatic(m) && !Modifier.isPublic(m) && !Modifier.isProtected(m), true);
+            Check.same(inside.getName() + " is static", Modifier.isStatic(m), true);
+            Check.same(inside.getName() + " is public or protected",
+                    Modifier.isPublic(m) || Modifier.isProtected(m), false);
             for (Method method : inside.getDeclaredMethods()) {
                 Check.same(method + " bears a name of the face", isOfFace(method.getName()), false);
             }
@@ -80,7 +81,7 @@ public final class FaceTest {
         String source = Files.readString(Path.of("src/main/java/TurtleDesk.java"));
         for (String out : new String[] {
             "->", "::", "finally", "synchronized", "assert ", "static {", "package ", "getMessage",
-            "Exact(", "java.io", "java.nio", "java.time", "Random", "System.", "Object", "Float."}) {
+            "Exact(", "java.io", "java.nio", "java.time", "Random", "System.", "Float."}) {
             Check.same("the source has " + out, source.contains(out), false);
         }
         Check.same("imports", source.split("(?m)^import ").length - 1, 1);

@@ -113,8 +113,10 @@ public final class InterpretTest {
 
     private static void does(String text, float x) {
         TurtleDesk desk = Check.compiled(text);
-        Check.same("interpret of " + text, desk.interpret(2000), 1);
-        Check.same("x after " + text, desk.x(), x);
+        for (int turn = 0; turn < 2; turn++) {
+            Check.same("interpret of " + text, desk.interpret(2000), 1);
+            Check.same("x after " + text, desk.x(), x);
+        }
     }
 
     private static void traps() {

@@ -101,6 +101,13 @@ public final class MachineTest {
         desk.restart();
         Check.same("run begins again", desk.run(2000), 14);
         Check.same("size stays", desk.size(), 26);
+        desk = Check.compiled("repeat 9{repeat 9{repeat 9{stop}}}");
+        for (int k = 0; k < 30; k++) {
+            Check.same("the stack is empty again", desk.run(2000), 1);
+            desk.restart();
+            Check.same("the stack is empty again", desk.interpret(2000), 1);
+            desk.restart();
+        }
     }
 
     private static void arithmetic() {
@@ -122,7 +129,8 @@ public final class MachineTest {
         gives("let b=0 let c=-b let a=-c", 0f);
         gives("let a=1 let a=a+a let a=a*a+a", 6f);
         gives("let a=b let b=5 let c=a", 0f);
-        TurtleDesk desk = Check.done("let a=1 let b=2 let c=3 let d=4 let e=5 let f=6 let g=7 let h=8");
+        TurtleDesk desk = Check.done(
+                "let a=1 let b=2 let c=3 let d=4 let e=5 let f=6 let g=7 let h=8");
         for (int v = 0; v < 8; v++) {
             Check.same("value " + v, desk.value(v), v + 1f);
         }
@@ -188,6 +196,9 @@ public final class MachineTest {
         traps("pen 10", 13);
         traps("pen -1", 13);
         traps("pen 2.5", 13);
+        traps("pen 11", 13);
+        traps("pen 9999", 13);
+        traps("pen -1000*100", 13);
         traps("to p{p()}p()", 14);
         traps("to p{q()}to q{r()}to r{s()}to s{}p()", 14);
         traps("to p{q()}to q{r()}to r{}p()p()", 1);

@@ -23,7 +23,7 @@ public final class TextTest {
     private static void refusedCounts() {
         TurtleDesk desk = Check.typed("up");
         for (int n : new int[] {0, -1, 5, 8, Integer.MIN_VALUE, Integer.MAX_VALUE}) {
-            Check.same("put of n = " + n, desk.put(' ' << 24 | ' ' << 16 | ' ' << 8 | ' ', n), false);
+            Check.same("put of n = " + n, desk.put(0x20202020, n), false);
         }
         Check.thrown("compile of up up{", IllegalArgumentException.class, () -> {
             Check.type(desk, "{");
