@@ -12,6 +12,7 @@ import java.util.TreeSet;
 public final class FaceTest {
     public static void main(String[] args) throws IOException {
         members();
+        sizes();
         source();
         newObject();
         beforeAProgram();
@@ -65,6 +66,29 @@ public final class FaceTest {
             for (Method method : inside.getDeclaredMethods()) {
                 Check.same(method + " bears a name of the face", isOfFace(method.getName()), false);
             }
+        }
+    }
+
+    private static void sizes() {
+        Class<?>[] inside = TurtleDesk.class.getDeclaredClasses();
+        Check.same("at most twelve classes", inside.length + 1 <= 12, true);
+        sizes(TurtleDesk.class);
+        for (Class<?> c : inside) {
+            Check.same(c + " is told by this test", c.getDeclaredClasses().length, 0);
+            sizes(c);
+        }
+    }
+
+    private static void sizes(Class<?> c) {
+        int fields = 0;
+        for (Field f : c.getDeclaredFields()) {
+            boolean isStatic = Modifier.isStatic(f.getModifiers());
+            fields += isStatic ? 0 : 1;
+            Check.same(f + " is final", !isStatic || Modifier.isFinal(f.getModifiers()), true);
+        }
+        Check.same(c + " has at most twenty fields", fields <= 20, true);
+        for (Method m : c.getDeclaredMethods()) {
+            Check.same(m + " has few parameters", m.getParameterCount() <= 7, true);
         }
     }
 

@@ -2,6 +2,7 @@
 public final class InterpretTest {
     public static void main(String[] args) {
         fuel();
+        fuelWithinLoops();
         fuelAndTraps();
         beginning();
         endOfMachine();
@@ -31,6 +32,10 @@ public final class InterpretTest {
         needs("to p{up}p()", 2);
         needs("to p{}p()p()", 2);
         needs("repeat 0{up}", 1);
+        needs("repeat 0.99{up}", 1);
+        needs("repeat -1{up}", 1);
+        needs("repeat 1{up}", 3);
+        needs("repeat 1.99{up}", 3);
         needs("repeat 3{}", 4);
         needs("repeat 3{up}", 7);
         needs("repeat 2.9{up down}", 7);
@@ -48,6 +53,24 @@ public final class InterpretTest {
         needs("repeat 999{up}", 1999);
         Check.same("too many turns", Check.compiled("repeat 2000{}").interpret(2000), 2);
         Check.same("no end", Check.compiled("while 1=1{}").interpret(2000), 2);
+    }
+
+    /** A statement or a turn without fuel does nothing, and what was done before it stays. */
+    private static void fuelWithinLoops() {
+        int[] turnsDone = {0, 0, 1, 1, 2};
+        for (String loop : new String[] {"repeat 2{let a=a+1}", "while a<2{let a=a+1}"}) {
+            TurtleDesk desk = Check.compiled(loop);
+            for (int fuel = 1; fuel <= 5; fuel++) {
+                Check.same(loop + " by " + fuel, desk.interpret(fuel), fuel < 5 ? 2 : 1);
+                Check.same(loop + " by " + fuel, desk.value(0), (float) turnsDone[fuel - 1]);
+            }
+        }
+        TurtleDesk desk = Check.compiled("to p x{let a=x}p(3)if a=3{let a=4}else{let a=5}");
+        float[] values = {0f, 3f, 3f, 4f};
+        for (int fuel = 1; fuel <= 4; fuel++) {
+            Check.same("interpret " + fuel, desk.interpret(fuel), fuel < 4 ? 2 : 1);
+            Check.same("value by " + fuel, desk.value(0), values[fuel - 1]);
+        }
     }
 
     private static void fuelAndTraps() {
@@ -109,6 +132,9 @@ public final class InterpretTest {
         does("to p{while 1=1{fd 1 if a=2{stop}let a=a+1}}p()fd 3", 22f);
         does("to p{q()fd 1}to q{stop fd 9}p()fd 1", 18f);
         does("repeat 3{fd 1 stop}fd 9", 17f);
+        // A stop leaves a while before its E R E is worked out again.
+        does("let a=1 while 1/a=1{fd 1 let a=0 stop}", 17f);
+        does("to p{let a=1 while 1/a=1{fd 1 let a=0 if 1=1{stop}}}p()fd 1", 18f);
     }
 
     private static void does(String text, float x) {
@@ -150,7 +176,7 @@ public final class InterpretTest {
 
     /** Programs made by a fixed rule come to the same scene in both ways. */
     private static void sameAsRun() {
-        Programs programs = new Programs();
+        Programs programs = new Programs(20261119);
         int ended = 0;
         for (int k = 0; k < 3000; k++) {
             String text = programs.next();

@@ -2,6 +2,7 @@
 public final class MachineTest {
     public static void main(String[] args) {
         fuel();
+        oneByOne();
         ended();
         restart();
         arithmetic();
@@ -9,7 +10,9 @@ public final class MachineTest {
         loops();
         calls();
         traps();
-        limits();
+        results();
+        places();
+        colours();
         stack();
         wrongNumbers();
         Check.end();
@@ -66,6 +69,24 @@ public final class MachineTest {
         }
         // A turn takes 10 words, and with the 0 of the while the let ends with each tenth word.
         Check.same("turns done", desk.value(0), 4000f);
+    }
+
+    /** With one fuel a run the machine does what it does with all the fuel at once. */
+    private static void oneByOne() {
+        String text = "to p x{repeat x{fd x rt 3}pen x}let a=3 while a>0{p(a)let a=a-1}home fill";
+        TurtleDesk whole = Check.compiled(text);
+        int words = 0;
+        for (int fuel = 1; fuel <= 2000 && words == 0; fuel++) {
+            whole.restart();
+            words = whole.run(fuel) == 1 ? fuel : 0;
+        }
+        TurtleDesk desk = Check.compiled(text);
+        for (int k = 1; k < words; k++) {
+            Check.same("run of word " + k, desk.run(1), 2);
+        }
+        Check.same("run of the last word", desk.run(1), 1);
+        Check.same("scene", Check.scene(desk), Check.scene(whole));
+        Check.same("words done", words > 100, true);
     }
 
     private static void ended() {
@@ -220,16 +241,34 @@ public final class MachineTest {
         Check.same("three calls were done", desk.value(0), 3f);
     }
 
-    private static void limits() {
-        gives("let a=1000*100", 100000f);
-        gives("let a=-1000*100", -100000f);
+    /** The greatest and the least result of each operation, and the floats next to them. */
+    private static void results() {
+        for (String sign : new String[] {"", "-"}) {
+            float most = sign.isEmpty() ? 100000f : -100000f;
+            gives("let a=" + sign + "9999*10 let a=a+" + sign + "10", most);
+            traps("let a=" + sign + "1000*100 let a=a+" + sign + "0.01", 12);
+            gives("let a=" + sign + "9999*10 let b=" + sign + "10 let a=a-(-b)", most);
+            traps("let a=" + sign + "1000*100 let b=" + sign + "0.01 let a=a-(-b)", 12);
+            gives("let a=" + sign + "1000*100", most);
+            traps("let a=" + sign + "1000*100.01", 12);
+            gives("let a=" + sign + "1000/0.01", most);
+            traps("let a=" + sign + "1001/0.01", 12);
+        }
+        // The least step beyond, and one that single precision doesn't tell from nothing.
         traps("let a=1000*100+0.01", 12);
-        traps("let a=-1000*100-0.01", 12);
-        traps("let a=1000*100-(-1)", 12);
-        gives("let a=1000*100+0", 100000f);
-        gives("let a=1000/0.01", 1000f / 0.01f);
-        traps("let a=1001/0.01", 12);
+        gives("let a=1000*100+0.01*0.1", 100000f);
+        gives("let a=-(1000*100)", -100000f);
+        traps("let a=1000*100/0", 11);
+    }
+
+    /** The farthest places that the turtle comes to. */
+    private static void places() {
         reaches("fd 984", 1000f, 12f);
+        reaches("fd 984 fd 0.01*0.01*0.1", 1000f, 12f);
+        traps("fd 984 fd 0.01*0.01", 12);
+        traps("bk 1016 bk 0.01*0.01", 12);
+        traps("rt 6 fd 988 fd 0.01*0.01", 12);
+        traps("rt 6 bk 1012 bk 0.01*0.01", 12);
         traps("fd 984.01", 12);
         reaches("bk 1016", -1000f, 12f);
         traps("bk 1016.1", 12);
@@ -240,6 +279,19 @@ public final class MachineTest {
         traps("up fd 9999", 12);
     }
 
+    /** The values that PEN, RT and LT take, and those next to them that they don't. */
+    private static void colours() {
+        for (String text : new String[] {"pen 0", "pen -0", "pen 9", "pen 0.5+0.5", "pen 9.00",
+            "rt 0", "rt -0", "lt -0", "rt 1000*100", "lt 1000*100", "rt -1000*100", "lt -24"}) {
+            Check.done(text);
+        }
+        for (String text : new String[] {"pen -0.01", "pen 0.01", "pen 8.99", "pen 9.01", "pen 10",
+            "pen -1", "pen 1000*100", "rt 0.01", "rt -0.01", "lt 23.99", "lt 999.5", "rt 9999.99",
+            "rt 0.1*0.1*0.1*0.1", "pen 0.1*0.1*0.1*0.1"}) {
+            traps(text, 13);
+        }
+    }
+
     private static void reaches(String text, float x, float y) {
         TurtleDesk desk = Check.done(text);
         Check.same("x after " + text, desk.x(), x);
@@ -248,7 +300,7 @@ public final class MachineTest {
 
     /**
      * Nine repeats, two Es and an E that lies as deep as can be put 20 values on the stack, and no
-     * text puts more; so trap 15 never comes, and must not come too early.
+     * text puts more; so trap 15, which StackTest forces, must not come too early.
      */
     private static void stack() {
         String deep = "1+1*(1+1*(1+1*(1+1*1)))";

@@ -10,12 +10,16 @@ public final class PictureTest {
         directions();
         turns();
         nearestPixels();
+        betweenPixels();
+        edgesOfLines();
         slantedLines();
         allLines();
         pen();
         home();
         fill();
         fillStopsAtCorners();
+        fillStopsAtEdges();
+        fillOfOnePixel();
         Check.end();
     }
 
@@ -103,6 +107,36 @@ public final class PictureTest {
         line("up rt 6 bk 12.6 down bk 3", "");
         // What lies outside is left out, and the line comes in again.
         line("up rt 6 bk 15 down fd 5", "16,0 16,1 16,2");
+    }
+
+    /** A place as near as can be to where one pixel ends and the next begins. */
+    private static void betweenPixels() {
+        String little = "0.01*0.01*0.02 ";
+        line("up fd 15.5 bk " + little + "down fd 0", "31,12");
+        line("up fd 15.5 down fd 0", "");
+        line("up rt 6 fd 11.5 bk " + little + "down fd 0", "16,23");
+        line("up rt 6 fd 11.5 down fd 0", "");
+        // Half a pixel below 0 is still pixel 0, and what lies below is not.
+        String least = "0.01*0.01*0.01*0.05 ";
+        line("up bk 16.5 down fd 0", "0,12");
+        line("up bk 16.5 bk " + least + "down fd 0", "");
+        line("up rt 6 bk 12.5 down fd 0", "16,0");
+        line("up rt 6 bk 12.5 bk " + least + "down fd 0", "");
+        // In single precision the float below 0.5 and 0.5 come to 1.
+        TurtleDesk desk = Check.done("up bk 15.5 bk 0.01*0.01*0.01*0.03 down fd 0 fill");
+        Check.same("x", desk.x(), Math.nextDown(0.5f));
+        line("up bk 15.5 bk 0.01*0.01*0.01*0.03 down fd 0", "1,12");
+        line("up rt 6 bk 11.5 bk 0.01*0.01*0.01*0.03 down fd 0", "16,1");
+    }
+
+    /** A line that leaves the picture goes on nowhere else in it. */
+    private static void edgesOfLines() {
+        line("up fd 14 down fd 5", "30,12 31,12");
+        line("up bk 14 down bk 5", "2,12 1,12 0,12");
+        line("up rt 6 fd 10 down fd 30", "16,22 16,23");
+        line("up rt 6 bk 10 down bk 30", "16,2 16,1 16,0");
+        line("up fd 15 rt 6 fd 11 rt 21 down fd 9", "31,23");
+        line("up fd 300 lt 6 fd 5 down fd 50", "");
     }
 
     private static void slantedLines() {
@@ -246,5 +280,38 @@ public final class PictureTest {
         desk = Check.done(slant + "pen 5 fill");
         Check.same("one pixel of the line", desk.pixel(16, 12), 5);
         Check.same("the next", desk.pixel(17, 13), 1);
+    }
+
+    /** The right end of a row is not side by side with the left end of the next one. */
+    private static void fillStopsAtEdges() {
+        TurtleDesk desk = Check.done("up rt 6 bk 12 down fd 23 home up fd 5 pen 3 fill");
+        for (int y = 0; y < 24; y++) {
+            for (int x = 0; x < 32; x++) {
+                Check.same("pixel " + x + " " + y, desk.pixel(x, y), x < 16 ? 0 : x == 16 ? 1 : 3);
+            }
+        }
+        desk = Check.done("up bk 16 down fd 31 home up rt 6 bk 5 pen 3 fill");
+        for (int y = 0; y < 24; y++) {
+            for (int x = 0; x < 32; x++) {
+                Check.same("pixel " + x + " " + y, desk.pixel(x, y), y < 12 ? 3 : y == 12 ? 1 : 0);
+            }
+        }
+    }
+
+    private static void fillOfOnePixel() {
+        line("fill up fd 5 pen 0 fill home pen 1 down fd 0", "16,12");
+        String around = "pen 0 fill pen 1 repeat 4{fd 2 rt 6}up fd 1 rt 6 fd 1 ";
+        TurtleDesk desk = Check.done(around + "pen 7 fill");
+        for (int y = 11; y < 16; y++) {
+            for (int x = 15; x < 20; x++) {
+                boolean in = x >= 16 && x <= 18 && y >= 12 && y <= 14;
+                int want = x == 17 && y == 13 ? 7 : in ? 1 : 0;
+                Check.same("pixel " + x + " " + y, desk.pixel(x, y), want);
+            }
+        }
+        // The pen may be up, and no turtle is needed on the pixels that are reached.
+        desk = Check.done(around + "pen 1 fill pen 7 fill");
+        Check.same("the box and what it held", desk.pixel(16, 12), 7);
+        Check.same("around", desk.pixel(15, 12), 0);
     }
 }

@@ -61,6 +61,16 @@ public final class TextTest {
         Check.same("four beyond 160", desk.put(0x20202020, 4), false);
         Check.same("a text of 160", desk.compile(), 3);
         Check.same("code of a text of 160", Check.code(desk), "0 23 27");
+        for (int n = 1; n <= 4; n++) {
+            desk = Check.typed(" ".repeat(160 - n));
+            Check.same("up to 160", desk.put(0x20202020, n), true);
+            for (int more = 1; more <= 4; more++) {
+                Check.same("beyond 160", desk.put(0x20202020, more), false);
+            }
+            desk = Check.typed(" ".repeat(161 - n));
+            Check.same("up to 161", desk.put(0x7d7d7d7d, n), false);
+            Check.same("nothing was put", desk.compile(), 1);
+        }
         Check.retype(desk, " ".repeat(158) + "fd");
         Check.thrown("compile", IllegalArgumentException.class, desk::compile);
         Check.same("the end of a text of 160", desk.error(), 160);
