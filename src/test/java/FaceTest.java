@@ -16,6 +16,7 @@ public final class FaceTest {
         source();
         newObject();
         beforeAProgram();
+        exampleOfReadme();
         Check.end();
     }
 
@@ -144,5 +145,21 @@ public final class FaceTest {
             Check.thrown("compile", IllegalArgumentException.class, desk::compile);
             Check.same("size", desk.size(), 0);
         }
+    }
+
+    /** What README.md tells of its example, and that this is the example that it shows. */
+    private static void exampleOfReadme() throws IOException {
+        String text = "repeat 4{fd 6.5 rt 6}";
+        String readme = Files.readString(Path.of("README.md"));
+        Check.same("the example's text", readme.contains('"' + text + '"'), true);
+        TurtleDesk desk = new TurtleDesk();
+        for (char c : text.toCharArray()) {
+            Check.same("put", desk.put(c, 1), true);
+        }
+        Check.same("compile", desk.compile(), 19);
+        Check.same("run", desk.run(2000), 1);
+        Check.same("pixel", desk.pixel(22, 12), 1);
+        Check.same("interpret", desk.interpret(2000), 1);
+        Check.same("pixel after interpret", desk.pixel(22, 12), 1);
     }
 }
